@@ -226,27 +226,20 @@ public final class SealedGroups {
     private void tryText() {
         trial.copyFrom(now);
         faultReason = NO_REASON;
-        faultPosition = 0;
         ordersDone = 0;
         text.next = 0;
         // An order has two characters at least, so no text has more orders than characters.
         for (int i = 0; i < MOST_SIGNS && text.next < text.length; i++) {
-            int position = text.next;
-            int reason = tryOrder();
-            if (reason != NO_REASON) {
-                faultReason = reason;
-                faultPosition = position;
+            faultPosition = text.next;
+            faultReason = text.readOrder() ? reasonOf(doOrder()) : BAD_FORM;
+            if (faultReason != NO_REASON) {
                 return;
             }
             ordersDone++;
         }
     }
 
-    private int tryOrder() {
-        if (!text.readOrder()) {
-            return BAD_FORM;
-        }
-        int answer = doOrder();
+    private static int reasonOf(int answer) {
         if (answer == INVALID_ARGUMENT) {
             return NO_SUCH_THING;
         }
@@ -491,33 +484,15 @@ public final class SealedGroups {
             return record >= first && record - first < size && record - first < RECORD_ROOM;
         }
 
-        int kindOf(int record) {
-            return has(record) ? kinds[record - first] : NOT_FOUND;
-        }
-
-        int ownerOf(int record) {
-            return has(record) ? owners[record - first] : NOT_FOUND;
-        }
-
-        int pageNumberOf(int record) {
-            return has(record) ? pageNumbers[record - first] : NOT_FOUND;
-        }
-
-        int oldOf(int record) {
-            return has(record) ? olds[record - first] : NOT_FOUND;
-        }
-
-        int newOf(int record) {
-            return has(record) ? news[record - first] : NOT_FOUND;
-        }
-
-        int targetOf(int record) {
-            return has(record) ? targets[record - first] : NOT_FOUND;
+        /** What a row has of a record, or NOT_FOUND if there is no such record. */
+        int at(int[] row, int record) {
+            int place = record - first;
+            return place >= 0 && place < size && place < row.length ? row[place] : NOT_FOUND;
         }
 
         int append(int kind, int owner, int page, int oldValue, int newValue, int target) {
             if (size < 0 || size >= RECORD_ROOM) {
-                return last();
+                return NOT_FOUND;
             }
             kinds[size] = kind;
             owners[size] = owner;
@@ -582,7 +557,7 @@ public final class SealedGroups {
             int before = size;
             int kept = Math.min(last(), forced);
             if (torn && has(kept) && kept > highestDiskMark) {
-                int kind = kindOf(kept);
+                int kind = at(kinds, kept);
                 if (kind != SETTLED && kind != CHECKPOINT) {
                     kept--;
                 }
@@ -620,27 +595,27 @@ public final class SealedGroups {
             if (!has(record)) {
                 return NOT_FOUND;
             }
-            int kind = kindOf(record);
+            int kind = at(kinds, record);
             boolean changesPage = kind == WRITTEN || kind == UNWRITTEN;
             switch (what) {
                 case 0:
                     return kind;
                 case 1:
-                    return ownerOf(record);
+                    return at(owners, record);
                 case 2:
-                    return pageNumberOf(record);
+                    return at(pageNumbers, record);
                 case 3:
-                    return changesPage ? oldOf(record) : NOT_FOUND;
+                    return changesPage ? at(olds, record) : NOT_FOUND;
                 case 4:
-                    return changesPage ? newOf(record) : NOT_FOUND;
+                    return changesPage ? at(news, record) : NOT_FOUND;
                 case 5:
                     return record <= forced ? 1 : 0;
                 case 6:
-                    return kind == CHECKPOINT ? oldOf(record) : NOT_FOUND;
+                    return kind == CHECKPOINT ? at(olds, record) : NOT_FOUND;
                 case 7:
-                    return kind == CHECKPOINT ? newOf(record) : NOT_FOUND;
+                    return kind == CHECKPOINT ? at(news, record) : NOT_FOUND;
                 default:
-                    return kind == UNWRITTEN ? targetOf(record) : NOT_FOUND;
+                    return kind == UNWRITTEN ? at(targets, record) : NOT_FOUND;
             }
         }
 
@@ -744,7 +719,8 @@ public final class SealedGroups {
             }
             // An open group has no write that was taken back already: only a restart meets those.
             for (int record = journal.last(); record > groups.begins[group]; record--) {
-                if (journal.kindOf(record) == WRITTEN && journal.ownerOf(record) == group) {
+                boolean ofGroup = journal.at(journal.owners, record) == group;
+                if (ofGroup && journal.at(journal.kinds, record) == WRITTEN) {
                     takeWriteBack(record);
                 }
             }
@@ -753,11 +729,11 @@ public final class SealedGroups {
         }
 
         void takeWriteBack(int write) {
-            int page = journal.pageNumberOf(write);
-            int value = journal.oldOf(write);
-            int record = journal.append(UNWRITTEN, journal.ownerOf(write), page, pages.valueOf(page),
-                    value, write);
-            pages.put(page, value, record);
+            int group = journal.at(journal.owners, write);
+            int page = journal.at(journal.pageNumbers, write);
+            int value = journal.at(journal.olds, write);
+            int valueNow = pages.valueOf(page);
+            pages.put(page, value, journal.append(UNWRITTEN, group, page, valueNow, value, write));
         }
 
         void endGroup(int group) {
@@ -861,24 +837,25 @@ public final class SealedGroups {
         }
 
         private void look(Journal journal) {
-            boolean fromCheckpoint = journal.latestCheckpoint != 0;
-            losers = fromCheckpoint ? Math.max(0, journal.oldOf(journal.latestCheckpoint)) : 0;
-            lookedFrom = fromCheckpoint ? journal.latestCheckpoint : journal.tellNumber(1);
+            int checkpointRecord = journal.latestCheckpoint;
+            boolean fromCheckpoint = checkpointRecord != 0;
+            losers = fromCheckpoint ? Math.max(0, journal.at(journal.olds, checkpointRecord)) : 0;
+            lookedFrom = fromCheckpoint ? checkpointRecord : journal.tellNumber(1);
             for (int page = 0; page < PAGES; page++) {
                 starts[page] = fromCheckpoint ? journal.checkpointStarts[page] : 0;
             }
-            int from = Math.max(journal.first, lookedFrom);
-            for (int record = from; record <= journal.last(); record++) {
+            int last = journal.last();
+            for (int record = Math.max(journal.first, lookedFrom); record <= last; record++) {
                 lookAt(journal, record);
             }
         }
 
         /** A checkpoint itself is passed over: it has neither a group nor a page. */
         private void lookAt(Journal journal, int record) {
-            int group = journal.ownerOf(record);
-            int page = journal.pageNumberOf(record);
+            int group = journal.at(journal.owners, record);
+            int page = journal.at(journal.pageNumbers, record);
             int bit = group >= 0 && group < GROUPS ? 1 << group : 0;
-            switch (journal.kindOf(record)) {
+            switch (journal.at(journal.kinds, record)) {
                 case BEGUN:
                     losers |= bit;
                     break;
@@ -903,12 +880,13 @@ public final class SealedGroups {
             if (least == 0) {
                 return;
             }
-            for (int record = least; record <= journal.last(); record++) {
-                int kind = journal.kindOf(record);
-                int page = journal.pageNumberOf(record);
+            int last = journal.last();
+            for (int record = least; record <= last; record++) {
+                int kind = journal.at(journal.kinds, record);
+                int page = journal.at(journal.pageNumbers, record);
                 boolean changesPage = kind == WRITTEN || kind == UNWRITTEN;
                 if (changesPage && isAfterStart(page, record) && pages.markOf(page) < record) {
-                    pages.put(page, journal.newOf(record), record);
+                    pages.put(page, journal.at(journal.news, record), record);
                     doneAgain++;
                 }
             }
@@ -936,16 +914,15 @@ public final class SealedGroups {
             }
             int left = losers;
             for (int record = journal.last(); record >= journal.first && left != 0; record--) {
-                int group = journal.ownerOf(record);
-                int kind = journal.kindOf(record);
+                int kind = journal.at(journal.kinds, record);
+                int group = journal.at(journal.owners, record);
+                boolean ofLoser = group >= 0 && group < GROUPS && (left >> group & 1) == 1;
                 if (kind == UNWRITTEN) {
-                    noteTakenBack(journal.targetOf(record) - journal.first);
-                } else if (group < 0 || group >= GROUPS || (left >> group & 1) == 0) {
-                    continue;
-                } else if (kind == BEGUN) {
+                    noteTakenBack(journal.at(journal.targets, record) - journal.first);
+                } else if (ofLoser && kind == BEGUN) {
                     store.endGroup(group);
                     left &= ~(1 << group);
-                } else if (kind == WRITTEN && !isTakenBack(record - journal.first)) {
+                } else if (ofLoser && kind == WRITTEN && !isTakenBack(record - journal.first)) {
                     store.takeWriteBack(record);
                     writesTakenBack++;
                 }
