@@ -416,23 +416,32 @@ public final class SealedGroups {
             return NOT_FOUND;
         }
 
+        int beginOf(int group) {
+            return group >= 0 && group < GROUPS ? begins[group] : 0;
+        }
+
+        int writesOf(int group) {
+            return group >= 0 && group < GROUPS ? writes[group] : 0;
+        }
+
+        int heldBy(int group) {
+            return group >= 0 && group < GROUPS ? held[group] : 0;
+        }
+
         int tell(int group, int what) {
-            if (group < 0 || group >= GROUPS) {
-                return INVALID_ARGUMENT;
-            }
             if (what == 0) {
-                return open >> group & 1;
+                return isOpen(group) ? 1 : 0;
             }
             if (!isOpen(group)) {
                 return NOT_FOUND;
             }
             switch (what) {
                 case 1:
-                    return begins[group];
+                    return beginOf(group);
                 case 2:
-                    return writes[group];
+                    return writesOf(group);
                 default:
-                    return held[group];
+                    return heldBy(group);
             }
         }
     }
@@ -691,34 +700,36 @@ public final class SealedGroups {
             return oldValue;
         }
 
-        int settleGroup(int group) {
+        /** 0 if the group can be ended by so many records. */
+        private int errorOfEnding(int group, int records) {
             if (group < 0 || group >= GROUPS) {
                 return INVALID_ARGUMENT;
             }
             if (stopped || !groups.isOpen(group)) {
                 return NOT_POSSIBLE;
             }
-            if (journal.isFull()) {
-                return LIMIT_REACHED;
+            return journal.size + records > MOST_RECORDS ? LIMIT_REACHED : 0;
+        }
+
+        int settleGroup(int group) {
+            int error = errorOfEnding(group, 1);
+            if (error != 0) {
+                return error;
             }
             journal.forceUpTo(journal.append(SETTLED, group, NOT_FOUND, 0, 0, 0));
             groups.leave(group);
-            return Integer.bitCount(groups.held[group]);
+            return Integer.bitCount(groups.heldBy(group));
         }
 
         int takeGroupBack(int group) {
-            if (group < 0 || group >= GROUPS) {
-                return INVALID_ARGUMENT;
+            int writes = groups.writesOf(group);
+            int error = errorOfEnding(group, writes + 1);
+            if (error != 0) {
+                return error;
             }
-            if (stopped || !groups.isOpen(group)) {
-                return NOT_POSSIBLE;
-            }
-            int writes = groups.writes[group];
-            if (journal.size + writes + 1 > MOST_RECORDS) {
-                return LIMIT_REACHED;
-            }
+            int begin = groups.beginOf(group);
             // An open group has no write that was taken back already: only a restart meets those.
-            for (int record = journal.last(); record > groups.begins[group]; record--) {
+            for (int record = journal.last(); record > begin; record--) {
                 boolean ofGroup = journal.at(journal.owners, record) == group;
                 if (ofGroup && journal.at(journal.kinds, record) == WRITTEN) {
                     takeWriteBack(record);
