@@ -11,7 +11,7 @@ import java.util.regex.Pattern;
  * document's words on lists and maps, with whole copies instead of rows that are used again.
  */
 public final class ModelTest {
-    private static final int RUNS = 3000;
+    private static final int RUNS = 1500;
     private static final int INVALID = -1000001;
     private static final int NOT_POSSIBLE = -1000002;
     private static final int LIMIT = -1000003;
