@@ -1,86 +1,11 @@
 /** Each promise with ordinary inputs, its edges and wrong inputs. */
-public final class PromiseTest {
-    private static final int INVALID = -1000001;
-    private static final int NOT_POSSIBLE = -1000002;
-    private static final int LIMIT = -1000003;
-    private static final int NOT_FOUND = -1000004;
-
-    private static int promise;
-    private static int checks;
-    private static int wrong;
-
+public final class PromiseTest extends Checks {
     public static void main(String[] args) {
-        newObject();
-        begin();
-        write();
-        settle();
-        takeBack();
-        writeOut();
-        dropOut();
-        checkpoint();
-        dropRecords();
-        dropLimits();
-        force();
-        stop();
-        tornStop();
-        restart();
-        restartOfLosers();
-        restartTakesRestUp();
-        restartBeyondLimit();
-        pageOf();
-        settledValue();
-        recordOf();
-        groupOf();
-        would();
-        count();
-        undo();
-        type();
-        clearText();
-        fault();
-        faultCauses();
-        faultStates();
-        play();
-        System.out.println(checks + " checks, " + wrong + " wrong");
-        if (wrong != 0) {
-            System.exit(1);
-        }
-    }
-
-    private static void due(String call, int got, int want) {
-        checks++;
-        if (got != want) {
-            wrong++;
-            System.out.println("promise " + promise + ": " + call + " answered " + got + ", due is " + want);
-        }
-    }
-
-    private static SealedGroups of(int number) {
-        promise = number;
-        return new SealedGroups();
-    }
-
-    private static void typeAll(SealedGroups x, String text) {
-        x.clearText();
-        for (int i = 0; i < text.length(); i++) {
-            due("type in " + text, x.type(text.charAt(i)), i + 1);
-        }
-    }
-
-    /** Plays a text that has no fault. */
-    private static void played(SealedGroups x, String text, int orders) {
-        typeAll(x, text);
-        due("play " + text, x.play(), orders);
-    }
-
-    private static void faultIs(SealedGroups x, String text, int position, int reason, int cause) {
-        typeAll(x, text);
-        due("fault(0) of " + text, x.fault(0), position);
-        due("fault(1) of " + text, x.fault(1), reason);
-        due("fault(2) of " + text, x.fault(2), cause);
+        runAll(PromiseTest.class);
     }
 
     private static void newObject() {
-        SealedGroups x = of(1);
+        SealedGroups x = new SealedGroups();
         for (int page = 0; page < 8; page++) {
             for (int what = 0; what < 6; what++) {
                 due("pageOf " + page + " " + what, x.pageOf(page, what), 0);
@@ -100,7 +25,7 @@ public final class PromiseTest {
     }
 
     private static void begin() {
-        SealedGroups x = of(2);
+        SealedGroups x = new SealedGroups();
         due("begin -1", x.begin(-1), INVALID);
         due("begin 4", x.begin(4), INVALID);
         due("begin 3", x.begin(3), 1);
@@ -120,7 +45,7 @@ public final class PromiseTest {
     }
 
     private static void write() {
-        SealedGroups x = of(3);
+        SealedGroups x = new SealedGroups();
         x.begin(0);
         x.begin(1);
         due("write", x.write(0, 7, 99), 0);
@@ -150,7 +75,7 @@ public final class PromiseTest {
     }
 
     private static void settle() {
-        SealedGroups x = of(4);
+        SealedGroups x = new SealedGroups();
         x.begin(2);
         due("settle nothing", x.settle(2), 0);
         due("settle closed", x.settle(2), NOT_POSSIBLE);
@@ -179,7 +104,7 @@ public final class PromiseTest {
     }
 
     private static void takeBack() {
-        SealedGroups x = of(5);
+        SealedGroups x = new SealedGroups();
         due("closed", x.takeBack(0), NOT_POSSIBLE);
         due("-1", x.takeBack(-1), INVALID);
         due("4", x.takeBack(4), INVALID);
@@ -215,7 +140,7 @@ public final class PromiseTest {
         x.stop(0);
         due("while stopped", x.takeBack(0), NOT_POSSIBLE);
 
-        x = of(5);
+        x = new SealedGroups();
         x.begin(0);
         x.write(0, 1, 1);
         x.write(0, 1, 2);
@@ -227,7 +152,7 @@ public final class PromiseTest {
     }
 
     private static void writeOut() {
-        SealedGroups x = of(6);
+        SealedGroups x = new SealedGroups();
         due("-1", x.writeOut(-1), INVALID);
         due("8", x.writeOut(8), INVALID);
         due("not in the cache", x.writeOut(0), NOT_POSSIBLE);
@@ -252,7 +177,7 @@ public final class PromiseTest {
     }
 
     private static void dropOut() {
-        SealedGroups x = of(7);
+        SealedGroups x = new SealedGroups();
         due("-1", x.dropOut(-1), INVALID);
         due("8", x.dropOut(8), INVALID);
         due("not there", x.dropOut(0), NOT_POSSIBLE);
@@ -274,7 +199,7 @@ public final class PromiseTest {
     }
 
     private static void checkpoint() {
-        SealedGroups x = of(8);
+        SealedGroups x = new SealedGroups();
         x.begin(1);
         x.write(1, 4, 1);
         x.begin(3);
@@ -301,7 +226,7 @@ public final class PromiseTest {
     }
 
     private static void dropRecords() {
-        SealedGroups x = of(9);
+        SealedGroups x = new SealedGroups();
         x.begin(0);
         due("no checkpoint", x.dropRecords(), NOT_POSSIBLE);
         x.settle(0);
@@ -320,7 +245,7 @@ public final class PromiseTest {
     }
 
     private static void dropLimits() {
-        SealedGroups x = of(9);
+        SealedGroups x = new SealedGroups();
         x.begin(0);
         x.settle(0);
         x.begin(1);
@@ -344,7 +269,7 @@ public final class PromiseTest {
     }
 
     private static void force() {
-        SealedGroups x = of(10);
+        SealedGroups x = new SealedGroups();
         due("nothing", x.force(), 0);
         x.begin(0);
         x.write(0, 1, 1);
@@ -359,7 +284,7 @@ public final class PromiseTest {
     }
 
     private static void stop() {
-        SealedGroups x = of(11);
+        SealedGroups x = new SealedGroups();
         due("-1", x.stop(-1), INVALID);
         due("2", x.stop(2), INVALID);
         x.begin(0);
@@ -381,7 +306,7 @@ public final class PromiseTest {
     }
 
     private static void tornStop() {
-        SealedGroups x = of(11);
+        SealedGroups x = new SealedGroups();
         x.begin(0);
         due("nothing is forced", x.stop(1), 1);
         due("none there", x.count(2), 0);
@@ -393,33 +318,33 @@ public final class PromiseTest {
         due("a torn write", x.stop(1), 2);
         due("records", x.count(0), 1);
 
-        x = of(11);
+        x = new SealedGroups();
         x.begin(0);
         x.write(0, 1, 5);
         x.writeOut(1);
         due("not at a mark", x.stop(1), 0);
-        x = of(11);
+        x = new SealedGroups();
         x.begin(0);
         x.write(0, 1, 5);
         x.writeOut(1);
         x.write(0, 2, 5);
         x.force();
         due("above all marks", x.stop(1), 1);
-        x = of(11);
+        x = new SealedGroups();
         x.begin(0);
         x.settle(0);
         due("no settling", x.stop(1), 0);
-        x = of(11);
+        x = new SealedGroups();
         x.begin(0);
         x.checkpoint();
         due("no checkpoint", x.stop(1), 0);
-        x = of(11);
+        x = new SealedGroups();
         x.begin(0);
         x.write(0, 0, 1);
         x.takeBack(0);
         x.force();
         due("an end", x.stop(1), 1);
-        x = of(11);
+        x = new SealedGroups();
         x.begin(0);
         x.force();
         due("a begin", x.stop(1), 1);
@@ -428,7 +353,7 @@ public final class PromiseTest {
     }
 
     private static void restart() {
-        SealedGroups x = of(12);
+        SealedGroups x = new SealedGroups();
         due("not stopped", x.restart(), NOT_POSSIBLE);
         x.begin(0);
         x.write(0, 1, 5);
@@ -461,7 +386,7 @@ public final class PromiseTest {
     }
 
     private static void restartOfLosers() {
-        SealedGroups x = of(12);
+        SealedGroups x = new SealedGroups();
         x.begin(0);
         x.write(0, 0, 10);
         x.begin(1);
@@ -496,7 +421,7 @@ public final class PromiseTest {
 
     /** A page written out in the middle of a takeBack keeps a part of it. */
     private static void restartTakesRestUp() {
-        SealedGroups x = of(12);
+        SealedGroups x = new SealedGroups();
         x.begin(0);
         x.write(0, 0, 1);
         x.write(0, 1, 2);
@@ -516,7 +441,7 @@ public final class PromiseTest {
     }
 
     private static void restartBeyondLimit() {
-        SealedGroups x = of(12);
+        SealedGroups x = new SealedGroups();
         x.begin(0);
         for (int i = 0; i < 59; i++) {
             x.write(0, i % 8, i + 1);
@@ -537,7 +462,7 @@ public final class PromiseTest {
     }
 
     private static void pageOf() {
-        SealedGroups x = of(13);
+        SealedGroups x = new SealedGroups();
         due("page -1", x.pageOf(-1, 0), INVALID);
         due("page 8", x.pageOf(8, 0), INVALID);
         due("what -1", x.pageOf(0, -1), INVALID);
@@ -556,7 +481,7 @@ public final class PromiseTest {
     }
 
     private static void settledValue() {
-        SealedGroups x = of(13);
+        SealedGroups x = new SealedGroups();
         x.begin(0);
         x.write(0, 1, 10);
         x.write(0, 1, 11);
@@ -581,7 +506,7 @@ public final class PromiseTest {
     }
 
     private static void recordOf() {
-        SealedGroups x = of(14);
+        SealedGroups x = new SealedGroups();
         x.begin(3);
         x.write(3, 5, 7);
         x.checkpoint();
@@ -620,7 +545,7 @@ public final class PromiseTest {
     }
 
     private static void groupOf() {
-        SealedGroups x = of(15);
+        SealedGroups x = new SealedGroups();
         due("group -1", x.groupOf(-1, 0), INVALID);
         due("group 4", x.groupOf(4, 0), INVALID);
         due("what -1", x.groupOf(0, -1), INVALID);
@@ -649,7 +574,7 @@ public final class PromiseTest {
     }
 
     private static void would() {
-        SealedGroups x = of(16);
+        SealedGroups x = new SealedGroups();
         int[] out = {-1, 5, 6, 9, 18, Integer.MAX_VALUE, Integer.MIN_VALUE};
         for (int what : out) {
             due("what " + what, x.would(0, what), INVALID);
@@ -685,7 +610,7 @@ public final class PromiseTest {
     }
 
     private static void count() {
-        SealedGroups x = of(17);
+        SealedGroups x = new SealedGroups();
         due("-1", x.count(-1), INVALID);
         due("13", x.count(13), INVALID);
         x.begin(0);
@@ -718,7 +643,7 @@ public final class PromiseTest {
     }
 
     private static void undo() {
-        SealedGroups x = of(18);
+        SealedGroups x = new SealedGroups();
         due("empty", x.undo(), NOT_POSSIBLE);
         x.begin(0);
         x.begin(0);
@@ -756,7 +681,7 @@ public final class PromiseTest {
     }
 
     private static void type() {
-        SealedGroups x = of(19);
+        SealedGroups x = new SealedGroups();
         due("31", x.type(31), INVALID);
         due("127", x.type(127), INVALID);
         due("32", x.type(32), 1);
@@ -771,7 +696,7 @@ public final class PromiseTest {
     }
 
     private static void clearText() {
-        SealedGroups x = of(20);
+        SealedGroups x = new SealedGroups();
         due("empty", x.clearText(), 0);
         typeAll(x, "b0;");
         due("clearText", x.clearText(), 3);
@@ -784,7 +709,7 @@ public final class PromiseTest {
     }
 
     private static void fault() {
-        SealedGroups x = of(21);
+        SealedGroups x = new SealedGroups();
         due("-1", x.fault(-1), INVALID);
         due("3", x.fault(3), INVALID);
         for (int what = 0; what < 3; what++) {
@@ -810,7 +735,7 @@ public final class PromiseTest {
     }
 
     private static void faultCauses() {
-        SealedGroups x = of(21);
+        SealedGroups x = new SealedGroups();
         faultIs(x, "a0;", 0, 1, 0);
         faultIs(x, ";", 0, 1, 0);
         faultIs(x, " c;", 0, 1, 0);
@@ -841,7 +766,7 @@ public final class PromiseTest {
     }
 
     private static void faultStates() {
-        SealedGroups x = of(21);
+        SealedGroups x = new SealedGroups();
         faultIs(x, "x;b0;", 2, 3, NOT_FOUND);
         faultIs(x, "x;b4;", 2, 2, NOT_FOUND);
         faultIs(x, "x;x;", 2, 3, NOT_FOUND);
@@ -860,7 +785,7 @@ public final class PromiseTest {
     }
 
     private static void play() {
-        SealedGroups x = of(22);
+        SealedGroups x = new SealedGroups();
         due("no orders", x.play(), 0);
         due("one change", x.count(11), 1);
         played(x, "b1;w1,2,05;w1,3,60;s1;", 4);
