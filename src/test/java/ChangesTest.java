@@ -182,6 +182,15 @@ public final class ChangesTest extends Checks {
         due(x.count(12), 4);
     }
 
+    // "`INVALID_ARGUMENT = -1000001`"; "`NOT_POSSIBLE = -1000002`"; "`LIMIT_REACHED = -1000003`";
+    // "`NOT_FOUND = -1000004`"
+    static void theConstantsAreTheErrors() {
+        due(SealedGroups.INVALID_ARGUMENT, -1000001);
+        due(SealedGroups.NOT_POSSIBLE, -1000002);
+        due(SealedGroups.LIMIT_REACHED, -1000003);
+        due(SealedGroups.NOT_FOUND, -1000004);
+    }
+
     // "INVALID_ARGUMENT is returned rather than NOT_POSSIBLE"
     static void invalidGoesBeforeNotPossible() {
         SealedGroups x = livelyAndStopped();

@@ -456,6 +456,9 @@ public final class EdgesTest extends Checks {
         for (int far : FAR) {
             due(x.recordOf(1, far), INVALID);
         }
+        for (int what = 0; what < 9; what++) {
+            due(x.recordOf(0, what), INVALID);
+        }
         due(x.recordOf(1, 0), 5);
         due(x.recordOf(1, 8), NOT_FOUND);
     }

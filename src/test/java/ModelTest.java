@@ -11,7 +11,10 @@ import java.util.regex.Pattern;
  * document's words on lists and maps, with whole copies instead of rows that are used again.
  */
 public final class ModelTest {
-    private static final int RUNS = 1500;
+    private static final int RUNS = 20000;
+    private static final int CALLS = 512;
+    // A step types an order of 8 characters, asks for its fault 5 times, clears the text and looks 4 times.
+    private static final int MOST_OF_A_STEP = 18;
     private static final int INVALID = -1000001;
     private static final int NOT_POSSIBLE = -1000002;
     private static final int LIMIT = -1000003;
@@ -39,30 +42,41 @@ public final class ModelTest {
         final SealedGroups real = new SealedGroups();
         final Model model = new Model();
         final List<String> told = new ArrayList<>();
+        int calls;
         int mostRecords;
         final int taste;
+        /** The journal comes to be full: many writes, few looks, ends, stops and texts. */
+        final boolean deep;
 
         Run(long seed) {
             this.seed = seed;
             random = new Random(seed);
             taste = random.nextInt(4);
+            deep = random.nextInt(3) == 0;
         }
 
         boolean agrees() {
-            int calls = 0;
-            while (calls < 512) {
-                if (!same(random.nextInt(100))) {
-                    System.out.println("seed " + seed + ":\n" + String.join("\n", told));
-                    return false;
+            boolean same = true;
+            while (same && calls <= CALLS - MOST_OF_A_STEP) {
+                same = same(draw());
+                for (int looks = random.nextInt(deep ? 2 : 5); looks > 0; looks--) {
+                    same &= sameLook();
                 }
-                calls++;
                 mostRecords = Math.max(mostRecords, model.now.records.size());
-                if (calls % 16 == 0 && !sameAllOver()) {
-                    System.out.println("seed " + seed + ":\n" + String.join("\n", told));
-                    return false;
-                }
             }
-            return true;
+            while (same && calls < CALLS) {
+                same = sameLook();
+            }
+            if (!same) {
+                System.out.println("seed " + seed + ":\n" + String.join("\n", told));
+            }
+            return same;
+        }
+
+        int draw() {
+            int draw = random.nextInt(100);
+            boolean aside = draw >= 36 && draw < 48 || draw >= 65;
+            return deep && aside && random.nextInt(8) > 0 ? random.nextInt(65) : draw;
         }
 
         int group() {
@@ -83,6 +97,7 @@ public final class ModelTest {
         }
 
         boolean told(String call, int got, int want) {
+            calls++;
             told.add(call + " = " + got + (got == want ? "" : " but the model says " + want));
             return got == want;
         }
@@ -164,40 +179,33 @@ public final class ModelTest {
             return orders[random.nextInt(orders.length)] + ";";
         }
 
-        boolean sameAllOver() {
-            boolean same = true;
-            for (int what = -1; what < 14; what++) {
-                same &= told("count " + what, real.count(what), model.count(what));
-            }
-            for (int page = -1; page < 9; page++) {
-                for (int what = -1; what < 10; what++) {
-                    same &= told("pageOf " + page + " " + what, real.pageOf(page, what), model.pageOf(page, what));
-                }
-            }
-            for (int group = -1; group < 5; group++) {
-                for (int what = -1; what < 5; what++) {
-                    same &= told("groupOf " + group + " " + what, real.groupOf(group, what),
-                            model.groupOf(group, what));
-                }
-            }
-            for (int torn = -1; torn < 3; torn++) {
-                for (int what = -1; what < 19; what++) {
-                    same &= told("would " + torn + " " + what, real.would(torn, what), model.would(torn, what));
-                }
-            }
-            return same & sameRecords();
+        /** A number from 0 on below the bound, or now and then one next to it. */
+        int near(int bound) {
+            return random.nextInt(20) == 0 ? (random.nextBoolean() ? -1 : bound) : random.nextInt(bound);
         }
 
-        boolean sameRecords() {
-            boolean same = true;
-            int last = model.count(2);
-            for (int record = Math.max(-1, model.count(1) - 3); record < last + 3; record++) {
-                for (int what = -1; what < 10; what++) {
-                    same &= told("recordOf " + record + " " + what, real.recordOf(record, what),
-                            model.recordOf(record, what));
-                }
+        boolean sameLook() {
+            int draw = random.nextInt(12);
+            if (draw < 2) {
+                int what = near(13);
+                return told("count " + what, real.count(what), model.count(what));
+            } else if (draw < 5) {
+                int page = near(8);
+                int what = near(9);
+                return told("pageOf " + page + " " + what, real.pageOf(page, what), model.pageOf(page, what));
+            } else if (draw < 6) {
+                int group = near(4);
+                int what = near(4);
+                return told("groupOf " + group + " " + what, real.groupOf(group, what), model.groupOf(group, what));
+            } else if (draw < 9) {
+                int record = model.count(1) - 2 + random.nextInt(model.count(0) + 4);
+                int what = near(9);
+                return told("recordOf " + record + " " + what, real.recordOf(record, what),
+                        model.recordOf(record, what));
             }
-            return same;
+            int torn = near(2);
+            int what = random.nextBoolean() ? near(5) : 10 + near(8);
+            return told("would " + torn + " " + what, real.would(torn, what), model.would(torn, what));
         }
     }
 

@@ -7,6 +7,22 @@ public final class TermsTest extends Checks {
         runAll(TermsTest.class);
     }
 
+    // "Sets of pages or groups are told as bits: bit k is for number k."
+    static void setsAreToldAsBits() {
+        for (int k = 0; k < 8; k++) {
+            int group = k % 4;
+            SealedGroups x = after("b" + group + ";w" + group + "," + k + ",1;");
+            due(x.count(4), 1 << group);
+            due(x.count(5), 1 << k);
+            due(x.count(6), 1 << k);
+            due(x.groupOf(group, 3), 1 << k);
+            due(x.checkpoint(), 3);
+            due(x.recordOf(3, 6), 1 << group);
+            due(x.recordOf(3, 7), 1 << k);
+            due(x.would(0, 3), 1 << group);
+        }
+    }
+
     // Pages
 
     // "There are 8 pages, numbered from 0."
@@ -30,7 +46,9 @@ public final class TermsTest extends Checks {
             due(x.write(0, page, 5), INVALID);
             due(x.writeOut(page), INVALID);
             due(x.dropOut(page), INVALID);
-            due(x.pageOf(page, 0), INVALID);
+            for (int what = 0; what < 9; what++) {
+                due(x.pageOf(page, what), INVALID);
+            }
         }
         due(x.would(0, 9), INVALID);
         due(x.would(0, 18), INVALID);
@@ -209,7 +227,9 @@ public final class TermsTest extends Checks {
             due(x.write(group, 0, 0), INVALID);
             due(x.settle(group), INVALID);
             due(x.takeBack(group), INVALID);
-            due(x.groupOf(group, 0), INVALID);
+            for (int what = 0; what < 4; what++) {
+                due(x.groupOf(group, what), INVALID);
+            }
         }
         due(x.count(0), 0);
     }
@@ -468,6 +488,7 @@ public final class TermsTest extends Checks {
         due(x.recordOf(3, 0), 1);
         due(x.recordOf(2, 0), NOT_FOUND);
         due(x.count(9), 0);
+        due(x.pageOf(7, 8), 2);
     }
 
     // "and the numbers from which dirty pages had to be done again then."
@@ -492,5 +513,35 @@ public final class TermsTest extends Checks {
         due(x.count(0), 1);
         due(x.count(3), 1);
         due(x.would(0, 4), 4);
+    }
+
+    // "Dropped records are gone; they are the first ones."
+    static void theRecordsThatStayAreAsBefore() {
+        SealedGroups x = after("b0;s0;b2;w2,6,7;w2,6,9;t2;b1;w1,5,3;c;b3;");
+        int[][] before = new int[13][9];
+        for (int record = 3; record <= 12; record++) {
+            for (int what = 0; what < 9; what++) {
+                before[record][what] = x.recordOf(record, what);
+            }
+        }
+        due(x.dropRecords(), 3);
+        for (int record = 4; record <= 12; record++) {
+            for (int what = 0; what < 9; what++) {
+                due(x.recordOf(record, what), before[record][what]);
+            }
+        }
+    }
+
+    // "Dropped records are gone; they are the first ones."
+    static void aRestartDoesWithTheRecordsThatStay() {
+        SealedGroups x = after("b0;s0;b2;w2,6,7;w2,5,8;s2;b1;w1,5,9;c;");
+        due(x.dropRecords(), 3);
+        x.stop(0);
+        due(x.restart(), 3);
+        due(x.pageOf(6, 0), 7);
+        due(x.pageOf(5, 0), 8);
+        due(x.recordOf(10, 8), 8);
+        due(x.recordOf(11, 0), 4);
+        due(x.count(2), 11);
     }
 }

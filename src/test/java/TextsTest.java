@@ -65,6 +65,17 @@ public final class TextsTest extends Checks {
         due(x.fault(0), NOT_FOUND);
     }
 
+    // "NOT_FOUND if the text has no fault (also if it is empty)"
+    static void theFaultIsGoneWithTheText() {
+        SealedGroups x = new SealedGroups();
+        faultIs(x, "c;!", 2, 1, 0);
+        x.clearText();
+        for (int what = 0; what < 3; what++) {
+            due(x.fault(what), NOT_FOUND);
+        }
+        due(x.play(), 0);
+    }
+
     // "orders, each followed by ";": "b" a group (it is begun), "w" a group, ",", a page, ",", a value, "s" a group (it
     // is settled), "t" a group (it is taken back), "o" a page (it is written out), "c" (a checkpoint), "x" (a stop) or
     // "r" (a restart)"
@@ -274,6 +285,19 @@ public final class TextsTest extends Checks {
             faultIs(x, "c;" + wrong, 2, 1, i);
         }
         faultIs(x, "c;w0,1,2!;", 2, 1, 6);
+    }
+
+    // "it is not of this form, its ";" included"
+    static void anOrderThatEndsTooEarlyIsNotOfTheForm() {
+        SealedGroups x = after("b0;w0,1,2;");
+        String[] texts = {";", "w;", "w0;", "w0,;", "w0,1;", "w0,1,;"};
+        for (int i = 0; i < texts.length; i++) {
+            faultIs(x, texts[i], 0, 1, i);
+        }
+        faultIs(x, "b;", 0, 1, 1);
+        faultIs(x, "s;", 0, 1, 1);
+        faultIs(x, "t;", 0, 1, 1);
+        faultIs(x, "o;", 0, 1, 1);
     }
 
     // "(of one that the text ends too early it is its length)"
