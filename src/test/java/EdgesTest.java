@@ -554,6 +554,9 @@ public final class EdgesTest extends Checks {
         int[] torn = {-1, 2, Integer.MIN_VALUE, Integer.MAX_VALUE};
         for (int no : torn) {
             due(x.would(no, 0), INVALID);
+            due(x.would(no, 1), INVALID);
+            due(x.would(no, 4), INVALID);
+            due(x.would(no, 10), INVALID);
         }
         due(x.would(0, 10), 0);
         due(x.would(1, 17), 0);
